@@ -1218,7 +1218,7 @@ public final class ScheduleHouse {
 
         private void refuse(int number) {
             // what is no token can have no right form either: of one place the least number counts
-            faultNumber = sort() == Tokens.BAD ? 1 : number;
+            faultNumber = tokens.sort[next] == Tokens.BAD ? 1 : number;
             throw new IllegalStateException("a fault of the text");
         }
 
@@ -1653,7 +1653,11 @@ public final class ScheduleHouse {
             hold(Code.SUM_END, 0, depth);
             for (int k = 0; k <= Tokens.MOST; k++) {
                 parentheses += openOperand();
-                readOperand();
+                if (sort() == Tokens.NAME && !inThread) {
+                    claimedCell();
+                } else {
+                    readOperand();
+                }
                 for (; parentheses > 0 && sort() == Tokens.CLOSE; parentheses--) {
                     pass();
                     release(1);
@@ -1753,14 +1757,9 @@ public final class ScheduleHouse {
         }
 
         private void readOperand() {
-            int sort = sort();
-            if (sort == Tokens.NAME && !inThread) {
-                claimedCell();
-                return;
-            }
-            if (sort == Tokens.WHOLE) {
+            if (sort() == Tokens.WHOLE) {
                 code.addPart(Code.NUMBER, tokens.value[next]);
-            } else if (sort == Tokens.SELF) {
+            } else if (sort() == Tokens.SELF) {
                 code.addPart(Code.SELF, 0);
             } else {
                 int local = knownFrom(0, next);
@@ -2361,6 +2360,46 @@ public final class ScheduleHouse {
         private void fail(int t, int number) {
             set(t, STATUS, FAILED);
             set(t, FAILURE, number);
+        }
+
+        /** A number that is the same for the same state, and seldom for two. */
+        int mix() {
+            int mixed = mixPart(0, 0, threadAt);
+            for (int t = 0; t < code.threads; t++) {
+                mixed = mixPart(mixed, threadAt + t * stride, usedOf(t));
+            }
+            return mixed;
+        }
+
+        private int mixPart(int before, int from, int many) {
+            int mixed = before;
+            for (int i = from; i < from + many; i++) {
+                mixed = (mixed ^ row[i]) * 0x01000193;
+                mixed ^= mixed >>> 15;
+            }
+            return mixed;
+        }
+
+        /** How many of a thread's fields can be other than 0. */
+        private int usedOf(int t) {
+            return lateAt + 2 * get(t, LATE);
+        }
+
+        boolean isSame(int[] other) {
+            boolean same = isSamePart(other, 0, threadAt);
+            for (int t = 0; t < code.threads && same; t++) {
+                same = isSamePart(other, threadAt + t * stride, usedOf(t));
+            }
+            return same;
+        }
+
+        private boolean isSamePart(int[] other, int from, int many) {
+            for (int i = from; i < from + many; i++) {
+                if (row[i] != other[i]) {
+                    return false;
+                }
+            }
+            return true;
         }
 
         /** Locals that are not known are no part of a state: two that differ in them alone have to be one. */
@@ -3011,7 +3050,7 @@ public final class ScheduleHouse {
             Arrays.fill(table, 0);
             machine.reset(way);
             addState(NONE, NONE, limit);
-            for (int s = 0; s < trial.states; s++) {
+            for (int s = 0; s < trial.states && s < MOST_STATES; s++) {
                 recall(s);
                 machine.listChoices();
                 inspectActs();
@@ -3043,34 +3082,16 @@ public final class ScheduleHouse {
 
         /** Whether the machine's state is kept already; if not, slot and mix tell where it belongs. */
         private boolean isKept() {
-            mix = mixOf(machine.row, machine.size);
+            mix = machine.mix();
             slot = mix & (TABLE - 1);
             for (int k = 0; k < TABLE && table[slot] != 0; k++) {
                 int s = table[slot] - 1;
-                if (keptMix[s] == mix && sameRow(kept[s])) {
+                if (keptMix[s] == mix && machine.isSame(kept[s])) {
                     return true;
                 }
                 slot = (slot + 1) & (TABLE - 1);
             }
             return false;
-        }
-
-        private static int mixOf(int[] row, int size) {
-            int mixed = 0;
-            for (int i = 0; i < size; i++) {
-                mixed = (mixed ^ row[i]) * 0x01000193;
-                mixed ^= mixed >>> 15;
-            }
-            return mixed;
-        }
-
-        private boolean sameRow(int[] other) {
-            for (int i = 0; i < machine.size; i++) {
-                if (machine.row[i] != other[i]) {
-                    return false;
-                }
-            }
-            return true;
         }
 
         private void keep(int from, int choice) {
