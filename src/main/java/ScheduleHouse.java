@@ -652,12 +652,12 @@ public final class ScheduleHouse {
             return NAME;
         }
 
-        private boolean isWord(int w, int first, int long1) {
-            if (long1 > WIDTH) {
+        private boolean isWord(int w, int first, int letters) {
+            if (letters > WIDTH) {
                 return false;
             }
             for (int i = 0; i < WIDTH; i++) {
-                int b = i < long1 ? byteAt(first + i) : ' ';
+                int b = i < letters ? byteAt(first + i) : ' ';
                 if (WORDS.charAt(w * WIDTH + i) != b) {
                     return false;
                 }
@@ -2493,8 +2493,9 @@ public final class ScheduleHouse {
 
         private void setClock(int a) {
             int t = thread[a];
-            int at = a * THREADS;
-            Arrays.fill(clock, at, at + THREADS, 0);
+            for (int u = 0; u < THREADS; u++) {
+                clock[a * THREADS + u] = 0;
+            }
             if (lastAct[t] == NONE) {
                 join(clock, a, startClock, t);
             } else {
@@ -2503,7 +2504,7 @@ public final class ScheduleHouse {
             if (!failed[a]) {
                 takeOver(a);
             }
-            clock[at + t]++;
+            clock[a * THREADS + t]++;
             lastAct[t] = a;
         }
 
