@@ -4,8 +4,14 @@ final class Checks {
 
     private static int wrong = 0;
     private static int right = 0;
+    private static String sentence = "";
 
     private Checks() {
+    }
+
+    /** The words of the document that the next checks are about. */
+    static void says(String words) {
+        sentence = "'" + words + "': ";
     }
 
     static void due(String what, long got, long want) {
@@ -14,7 +20,7 @@ final class Checks {
         } else {
             wrong++;
             if (wrong <= 50) {
-                System.out.println(what + " answered " + got + ", due is " + want);
+                System.out.println(sentence + (what.length() > 1500 ? what.substring(0, 1500) + " .." : what) + " answered " + got + ", due is " + want);
             }
         }
     }
@@ -46,7 +52,7 @@ final class Checks {
             right++;
         } else {
             wrong++;
-            System.out.println(what + " threw " + got + ", due is " + wanted.getName());
+            System.out.println(sentence + what + " threw " + got + ", due is " + wanted.getName());
         }
     }
 
@@ -94,15 +100,16 @@ final class Checks {
         due("count(2) of " + text, house.count(2), 0);
     }
 
+    /** As fault(), of a text that has no mark. */
+    static void faultAt(String text, int number, int place) {
+        fault(text.substring(0, place) + '@' + text.substring(place), number);
+    }
+
     static void good(String text, int threads) {
         ScheduleHouse house = fed(text);
         due("compile() of " + text, house.compile(), threads);
         due("fault(0) of " + text, house.fault(0), NONE);
         due("fault(1) of " + text, house.fault(1), NONE);
-    }
-
-    static String times(int n, String part) {
-        return part.repeat(n);
     }
 
     static void end() {
