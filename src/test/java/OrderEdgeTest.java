@@ -10,6 +10,7 @@ public final class OrderEdgeTest {
         sureCells();
         sureRows();
         follows();
+        eachByItsOwn();
         failedOnes();
         whichRace();
         exchanges();
@@ -142,6 +143,44 @@ public final class OrderEdgeTest {
         order(acts("cell a; sure cell s; lock l; thread t { take l; give l; } thread u { take l; s = 1; pause; } thread v { let i = s; start w; } idle thread w { pause; }"
                 + " thread x { join w; }", 0, 0, 0, 1, 1, 1, 2, 2, 3, 4),
                 "011111111", "001111111", "000111111", "000011111", "000000000", "000000111", "000000011", "000000001", "000000000");
+    }
+
+    /** Thread 0, lock 0 and the sure cell 0 have one number, and nothing else in common. */
+    private static void eachByItsOwn() {
+        Checks.says("of a lock ... of it; of a sure cell ... of it; of that thread");
+        String[] sources = {"start z;", "take l; give l;", "take l; wake l; give l;", "s = 1;", "let i = swap s, 1;", "join y;", "call 0, 1;", "take l; wait l;"};
+        String[] targets = {"join y;", "take l;", "let i = s;", "let i = add s, 1;", "start z;", "call 0, 1;", "s = 2;", "let i = c;"};
+        boolean[][] lockOrCell = new boolean[sources.length][targets.length];
+        lockOrCell[1][1] = true;
+        lockOrCell[2][1] = true;
+        lockOrCell[7][1] = true;
+        lockOrCell[3][2] = true;
+        lockOrCell[3][3] = true;
+        lockOrCell[4][2] = true;
+        lockOrCell[4][3] = true;
+        for (int k = 0; k < 2 * sources.length * targets.length; k++) {
+            String others = k % 2 == 0 ? "thread y { } idle thread z { }" : "idle thread z { } thread y { }";
+            int i = k / 2 % sources.length;
+            int j = k / 2 / sources.length;
+            if (i != 0 || j != 4) {
+                eachByItsOwn(others, sources[i], targets[j], lockOrCell[i][j]);
+            }
+        }
+    }
+
+    private static void eachByItsOwn(String others, String source, String target, boolean want) {
+        ScheduleHouse x = Checks.begun("sure cell s; cell c; lock l; " + others + " thread t { " + source + " pause; } thread u { pause; " + target + " pause; }", 0);
+        int own = source.split(";").length;
+        for (int k = 0; k < own; k++) {
+            act(x, 2);
+        }
+        act(x, 3);
+        act(x, 3);
+        act(x, 3);
+        for (int k = 0; k < own; k++) {
+            Checks.due("act " + k + " of " + source + " and " + target, x.before(k, own + 1), want);
+            Checks.due("act " + k + " of " + source + " and behind " + target, x.before(k, own + 2), want);
+        }
     }
 
     private static void failedOnes() {

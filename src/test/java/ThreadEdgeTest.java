@@ -14,6 +14,7 @@ public final class ThreadEdgeTest {
         exchanges();
         exchangesThatFail();
         ownIsDoneAtOnce();
+        flow();
         workedWithTheAct();
         rows();
         rowsOfClaims();
@@ -30,6 +31,7 @@ public final class ThreadEdgeTest {
         locks();
         waiting();
         waking();
+        wokenOnce();
         joins();
         ends();
         Checks.end();
@@ -165,6 +167,21 @@ public final class ThreadEdgeTest {
         gives("0 <= 0 >= 1", 1);
         gives("0 and 0 or 1 and 1", 1);
         gives("(10 - (4 - 3)) * 2", 18);
+        Checks.says("An operand is WHOLE | self | NAME | ( E )");
+        gives("(0 or 1)", 1);
+        gives("(0 or 1) + 1", 2);
+        gives("(0 or 0) == 0", 1);
+        gives("2 * (1 and 3) - 1", 1);
+        gives("3 * (2 == 2)", 3);
+        gives("-(1 + 2)", -3);
+        gives("not (1 and 0)", 1);
+        gives("not (0 or 3) or 5", 1);
+        gives("-(2) * -(3)", 6);
+        gives("((((7))))", 7);
+        gives("(1 + 2) * (3 + 4) - (5 - 6)", 22);
+        gives("((1 or 0) and (0 or 1)) + (2 or 0) * 3", 4);
+        gives("1 - (2 - (3 - (4 - 5)))", 3);
+        gives("(2 < 3) + (3 > 2) + (2 != 2)", 2);
     }
 
     private static void self() {
@@ -266,6 +283,48 @@ public final class ThreadEdgeTest {
             Checks.due("state of " + t, z.thread(t, 0), want[t]);
         }
         Checks.due("over at once", z.run(3), 1);
+    }
+
+    /** The values that a thread writes, one behind the other, as digits. */
+    private static void writes(String body, String want) {
+        ScheduleHouse x = Checks.begun("cell a; lock l; thread t { " + body + " }", 0);
+        StringBuilder got = new StringBuilder();
+        for (int k = 0; k < 100 && x.choices() > 0; k++) {
+            x.go(0);
+            if (x.act(k, 1) == 1) {
+                got.append(x.act(k, 4));
+            }
+        }
+        Checks.due(body + " wrote " + got + ", due is " + want, got.toString().equals(want), true);
+        Checks.due("ended: " + body, x.thread(0, 0), 2);
+    }
+
+    private static void flow() {
+        Checks.says("IF: if E BLOCK [else BLOCK | else IF]; while E BLOCK; end");
+        String three = "let x = N; if x == 0 { a = 1; } else if x == 1 { a = 2; } else if x == 2 { a = 3; } ";
+        String[] with = {"19", "29", "39", "49", "49"};
+        String[] without = {"19", "29", "39", "9", "9"};
+        for (int n = 0; n < 5; n++) {
+            writes((three + "else { a = 4; } a = 9;").replace("N", String.valueOf(n)), with[n]);
+            writes((three + "a = 9;").replace("N", String.valueOf(n)), without[n]);
+            writes(("while 1 { " + three + "else { a = 4; } a = 9; if x { end; } a = 8; end; }").replace("N", String.valueOf(n)), n == 0 ? "198" : with[n]);
+        }
+        writes("if 1 { } else { a = 1; } a = 2;", "2");
+        writes("if 0 { a = 1; } else { } a = 2;", "2");
+        writes("if 1 { if 0 { a = 1; } else { a = 2; } a = 3; } else { a = 4; } a = 5;", "235");
+        writes("if 0 { a = 1; } else { if 1 { a = 2; } else { a = 3; } a = 4; } a = 5;", "245");
+        writes("if 0 { a = 1; } else if 0 { a = 2; } else { if 1 { a = 3; } a = 4; } a = 5;", "345");
+        writes("if 1 { a = 1; if 1 { a = 2; } else if 1 { a = 3; } } else if 1 { a = 4; } a = 5;", "125");
+        writes("if -1 { a = 1; } if 2 { a = 2; } if 0 { a = 3; }", "12");
+        writes("while 0 { a = 1; } a = 2;", "2");
+        writes("let i = 0; while i < 3 { a = i; i = i + 1; } a = 9;", "0129");
+        writes("let i = 3; while i { a = i; i = i - 1; } a = 9;", "3219");
+        writes("let i = 0; while i < 2 { let j = 0; while j < 3 { a = i * 3 + j; j = j + 1; } i = i + 1; } a = 9;", "0123459");
+        writes("let i = 0; while i < 4 { if i mod 2 { a = i; } else { a = 7; } i = i + 1; } a = 9;", "71739");
+        writes("let i = 0; while i < 3 { lock l { a = i; } i = i + 1; } a = 9;", "0129");
+        writes("let i = 0; while 1 { a = i; i = i + 1; if i == 3 { end; } }", "012");
+        writes("lock l { if 1 { a = 1; } else { a = 2; } a = 3; } a = 4; end; a = 5;", "134");
+        writes("let i = 1; while i { i = 0; while i { a = 1; } a = 2; } a = 3;", "23");
     }
 
     private static void workedWithTheAct() {
@@ -701,6 +760,42 @@ public final class ThreadEdgeTest {
         z.go(0);
         Checks.due("4", z.thread(4, 1), 4);
         Checks.due("none is woken", z.lock(1, 2), 3);
+    }
+
+    private static void wokenOnce() {
+        Checks.says("when it was woken it goes on by taking it again");
+        ScheduleHouse x = Checks.begun("lock l; thread t { take l; wait l; wait l; pause; } thread u { take l; wake l; give l; take l; give l; }", 0);
+        for (int k = 0; k < 5; k++) {
+            x.go(0);
+        }
+        Checks.due("woken: t, or u's next take", x.choices(), 2);
+        x.go(0);
+        Checks.due("t holds it again", x.lock(0, 0), 0);
+        x.go(0);
+        Checks.due("it waits again", x.lock(0, 2), 1);
+        Checks.due("it was woken once: u alone", x.choices(), 1);
+        Checks.due("u alone", x.choice(0, 0), 1);
+        x.go(0);
+        x.go(0);
+        Checks.due("stuck", x.run(4), 1);
+        // it is held as often as before this WAIT, not an earlier one
+        ScheduleHouse y = Checks.begun("lock l; thread t { take l; take l; take l; wait l; give l; wait l; pause; } thread u { take l; wake l; give l; take l; wake l; give l; }", 0);
+        for (int k = 0; k < 4; k++) {
+            y.go(0);
+        }
+        for (int k = 0; k < 3; k++) {
+            y.go(0);
+        }
+        y.go(0);
+        Checks.due("three times", y.lock(0, 1), 3);
+        y.go(0);
+        y.go(0);
+        for (int k = 0; k < 3; k++) {
+            y.go(0);
+        }
+        y.go(0);
+        Checks.due("twice", y.lock(0, 1), 2);
+        Checks.due("by t", y.lock(0, 0), 0);
     }
 
     private static void joins() {

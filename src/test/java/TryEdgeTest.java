@@ -15,6 +15,7 @@ public final class TryEdgeTest {
         partly();
         lookedAtWhenFound();
         alwaysAndFinally();
+        claimsFirst();
         claimsThatFail();
         claimsOfWhatCame();
         stuckAndFailed();
@@ -63,6 +64,8 @@ public final class TryEdgeTest {
         states("which lock is held", "lock k; lock l; thread t { take k; take l; }", 0, 3);
         states("who holds it", "lock l; thread t { lock l { } } thread u { lock l { } }", 0, 8);
         states("ENDED", "thread t { pause; } thread u { pause; end; }", 0, 4);
+        states("ENDED at two places", "cell a; thread t { if 1 { let i = a; if i { end; } } } thread u { a = 1; }", 0, 4);
+        states("ENDED at three places", "cell a; thread t { if 1 { let i = a; if i { end; } else { end; } } end; } thread u { a = 1; }", 0, 4);
         states("ASLEEP", "thread t { start u; } idle thread u { pause; }", 0, 3);
         Checks.says("FAILED and with which number; of GOING and FAILED ones the S or ACT at which they are, and their LOCALS that are known there");
         states("one place", "cell a; thread t { if 1 { let i = a; } assert 0; } thread u { a = 1; }", 0, 4);
@@ -88,6 +91,8 @@ public final class TryEdgeTest {
         ScheduleHouse y = tried("cell a; lock k; lock l; thread t { take k; take l; if 1 { let i = a; if i { wait k; } else { wait l; } } } thread u { a = 1; }"
                 + " thread v { take k; wakeall k; }", 0);
         Checks.due("stuck in two ways", y.finding(0, STUCK) >= 0, true);
+        // what it waited for before is no part of it: round after round the same states
+        states("waits again and again", "lock l; thread t { while 1 { take l; wait l; give l; } } thread u { while 1 { take l; wakeall l; give l; } }", 0, 10);
         // woken or not: without it the woken one would never go on
         ScheduleHouse z = tried("lock l; sure cell w; thread t { take l; w = 1; wait l; w = 2; give l; } thread u { let i = w; if i { take l; wake l; give l; } } finally w == 1;", 0);
         Checks.due("woken, it goes on", z.finding(0, 4) >= 0, true);
@@ -103,6 +108,7 @@ public final class TryEdgeTest {
         states("two cells", "cell a; cell b; thread t { a = 1; b = 1; }", 1, 7);
         states("one cell twice", "cell a; thread t { a = 1; a = 2; }", 1, 6);
         states("their values", "cell a; cell b; thread t { if 1 { let i = b; a = i; } } thread u { b = 1; }", 0, 8);
+        states("the values of all of them", "cell a; cell b; sure cell c; thread t { if 1 { let i = c; a = 1; b = i; } pause; } thread u { c = 1; }", 1, 35);
         states("a sure one is not late", "sure cell a; thread t { a = 1; }", 1, 2);
         states("eight and the ninth", "cell a; thread t { let i = 0; while i < 9 { a = 1; i = i + 1; } }", 1, 63);
     }
@@ -220,6 +226,19 @@ public final class TryEdgeTest {
         Checks.due("asleep", tried("idle thread t { pause; } finally 0;", 0).finding(0, 4), 0);
         Checks.due("failed", tried("thread t { pause; assert 0; } finally 0;", 0).finding(0, 4), 1);
         Checks.due("one stuck, one ended", tried("thread t { pause; } thread u { join u; } finally 0; always 1;", 0).finding(0, 4), -1);
+    }
+
+    private static void claimsFirst() {
+        Checks.says("cells, locks, threads: told anywhere");
+        ScheduleHouse x = tried("always a; always r[1] == 3; finally a + r[0]; finally r[1]; cell a = 5; cell r[2] = 3;", 0);
+        int[] want = {-1, -1, -1, -1, -1, -1, -1, -1};
+        for (int f = 0; f < 8; f++) {
+            Checks.due("finding " + f, x.finding(0, f), want[f]);
+        }
+        Checks.due("a is 0", tried("always a; cell a;", 0).finding(0, 0), 0);
+        Checks.due("a is 0", tried("finally a; cell a;", 0).finding(0, 4), 0);
+        Checks.due("r[1] is 0", tried("always r[1]; cell a = 7; cell r[2]; cell b = 7;", 0).finding(0, 0), 0);
+        Checks.due("b is 0", tried("always b; cell a = 7; cell r[2] = 7; cell b; cell c = 7;", 0).finding(0, 0), 0);
     }
 
     private static void claimsThatFail() {
