@@ -1,5 +1,7 @@
 import java.util.List;
 import java.util.Random;
+import java.util.regex.Matcher;
+import java.util.regex.Pattern;
 
 /** Holds the house against the models, by texts that a seed makes: their faults, runs, tryings and histories. */
 public final class ModelTest {
@@ -17,6 +19,8 @@ public final class ModelTest {
             for (int m = 0; m < 8; m++) {
                 compareText(Maker.spoiled(made, random));
             }
+            compareText(nearTheMost(made, random));
+            compareText(nearTheMost(Maker.spoiled(made, random), random));
             ModelText model = new ModelText(made);
             if (model.fault == 0 && made.length() <= 3000) {
                 compareRuns(made, model, random);
@@ -24,6 +28,24 @@ public final class ModelTest {
             }
         }
         Checks.end();
+    }
+
+    /** A text with so much before it that its end is near the 700th token, and perhaps near the 24th cell. */
+    private static String nearTheMost(String made, Random random) {
+        int tokens = 0;
+        Matcher m = Pattern.compile("[A-Za-z0-9]+|[=!<>]=|\\S").matcher(made);
+        while (m.find()) {
+            tokens++;
+        }
+        StringBuilder b = new StringBuilder();
+        int rows = random.nextInt(4);
+        for (int k = 0; k < rows; k++) {
+            b.append("cell zz").append(k).append('[').append(5 + random.nextInt(4)).append("];");
+        }
+        boolean odd = random.nextBoolean();
+        b.append(odd ? "always 1;" : "");
+        int left = 700 - 6 * rows - (odd ? 3 : 0) - 4 - tokens + random.nextInt(40) - 10;
+        return b + "thread zz{" + "pause;".repeat(Math.max(0, left / 2)) + "}" + made;
     }
 
     private static void compareText(String made) {

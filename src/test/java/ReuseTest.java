@@ -65,11 +65,11 @@ public final class ReuseTest {
 
     private static void faultsAreForgotten() {
         Checks.says("THE TEXT is read and judged");
-        ScheduleHouse x = new ScheduleHouse();
         String[] bad = {"thread t { let a = 1; let b = 2; if a { while b { @$", "thread t { lock l { if 1 { let a = (1 + (2 * @]", "always ((((1 + @;", "thread t { @always", "cell a[@",
             "thread t { let a = 1; let a1 = 1; let a2 = 1; let a3 = 1; let a4 = 1; let a5 = 1; let a6 = 1; let a7 = 1; let @a8 = 1; }",
             "thread t { " + "lock l { ".repeat(16) + "@end; ", "thread t { let x = swap @1", "sure @lock", "idle @cell", "finally not not @;", "thread t { if 1 { } else if @{"};
         for (String b : bad) {
+            ScheduleHouse x = new ScheduleHouse();
             int number = b.contains("$") ? -1 : b.contains("@a8") || b.contains("@end") ? -3 : -2;
             becomes(x, b, number);
             becomes(x, "lock a;", 0);
