@@ -271,6 +271,18 @@ public final class ReuseTest {
                 }
             }
         }
+        // what an ACT of the text before had at the same place
+        for (String before : new String[] {"cell c; thread t { let i = cas c, 1 + 1, 2; }", "cell c; thread t { let i = cas c, 1 + 1, 2; i = i + 1; c = i; }",
+            "cell c[2]; thread t { c[1 + 1] = 2; }", "cell c; lock l; thread t { take l; wakeall l; }"}) {
+            other(x, before).compile();
+            other(x, "cell c; cell r[2]; thread t { r[0] = 1; c = 1 / 0; } thread u { r[0] = 2; }").compile();
+            x.attempt(0, 3000);
+            Checks.due("it fails not", x.finding(0, 10), 0);
+            other(x, before).compile();
+            other(x, "cell c; thread t { c = 1; c = 1 / 0; } thread u { let i = c; }").compile();
+            x.attempt(0, 3000);
+            Checks.due("it fails not", x.finding(0, 10), 0);
+        }
         Checks.due("narrow, way 0", states[2], 4);
         Checks.due("narrow, way 1", states[3], 5);
     }

@@ -7,6 +7,7 @@ public final class TryEdgeTest {
 
     public static void main(String[] args) {
         whatAStateIs();
+        manyStates();
         waitingStates();
         lateStates();
         calledStates();
@@ -76,6 +77,28 @@ public final class TryEdgeTest {
         ScheduleHouse x = Checks.compiled("lock l; thread t { while 1 { take l; } }");
         Checks.due("how often", x.attempt(0, 50), 50);
         Checks.due("partly", x.tried(0, 1), 1);
+    }
+
+    private static void manyStates() {
+        Checks.says("two with the same of all this are one");
+        // 14 * 14 * 14 states, each but the last found by up to three ways
+        String thread = " { " + "pause; ".repeat(13) + "} ";
+        ScheduleHouse x = tried("thread t" + thread + "thread u" + thread + "thread v" + thread, 0);
+        int[] want = {2744, 0, 1, 1, 0, 3 * 13 * 14 * 14};
+        for (int what = 0; what < 6; what++) {
+            Checks.due("tried(0, " + what + ")", x.tried(0, what), want[what]);
+        }
+        // 5 ^ 4 of cells and places
+        String count = " { let i = 0; while i < 4 { i = i + 1; r[self] = i; } } ";
+        states("four that count", "cell r[4]; thread t" + count + "thread u" + count + "thread v" + count + "thread w" + count, 0, 625);
+        // cells whose values are mixed to one number by many a way to mix them: they are two all the same
+        for (int[] pair : new int[][] {{50332853, 2}, {3, 2}, {1, 0}, {31, 2}, {-31, 2}, {65537, 2}}) {
+            ScheduleHouse y = tried("cell a; cell b; sure cell s; thread t { if 1 { let i = s; if i { a = " + pair[1] + "; b = " + pair[0] + "; } else { a = 1; b = 0; } } }"
+                    + " thread u { s = 1; }", 0);
+            Checks.due("two ends", y.tried(0, 2), 2);
+            Checks.due("two outcomes", y.tried(0, 3), 2);
+            Checks.due("states", y.tried(0, 0), 11);
+        }
     }
 
     private static void waitingStates() {
